@@ -62,6 +62,14 @@ public final class BuildersTest {
         // Now 8000, 10000, 10000: the second fence at 3 is low enough, as low as 0 is the first that is.
         built(x, 10000, 3, 1, 0, 3);
         Check.due("heights stay", x.fence(0, 1) * 10 + x.fence(1, 1), 5);
+        FourAPole shy = Check.course("l5@40;l5@42", "430000;450009;770000", "aa");
+        Check.text(shy, "(h-s)*10").rule();
+        // Clear with refusals of 5 at each: 5776, or 7220 with one fence low; of 0 and 0: 10000; 100 * 95 twice: 9025.
+        built(shy, 9025, 3, -1, -1, 2);
+        built(shy, 9026, 2, -1, -1, 1);
+        built(shy, 7221, 3, -1, -1, 2);
+        built(shy, 7220, 3, 0, 0, 3);
+        x.built(0, 10000, 3);
         int[][] bad = {{-1, 0, 0}, {1, 0, 0}, {0, -1, 0}, {0, 10001, 0}, {0, 0, -1}, {0, 0, 7}, {MIN, MAX, MIN}};
         for (int[] b : bad) {
             Check.due("built(" + b[0] + ", " + b[1] + ", " + b[2] + ")", x.built(b[0], b[1], b[2]), -2);
@@ -85,6 +93,9 @@ public final class BuildersTest {
             Check.due("fair(" + bad + ")", x.fair(bad), -1);
         }
         Check.rowIs("refused: the row stays", x, 2, 2);
+        FourAPole odd = Check.course("u3@41", "900000;700000");
+        Check.due("the first horse counts too", odd.fair(0), 63);
+        Check.rowIs("the first horse counts too", odd, 0, 0);
         FourAPole none = Check.course("u3@41", "");
         Check.due("no horses", none.fair(0), 10);
         Check.rowIs("no horses", none, 0, 0);
@@ -112,6 +123,12 @@ public final class BuildersTest {
         x.told(2, 2, 20, 0);
         Check.due("8 at most", x.parts(), 16);
         Check.rowIs("8 at most", x, 0, 1, 4, 4, 3, 4, 5);
+        FourAPole rider = Check.course("u3@40", "400000;400000;400000");
+        rider.told(0, 0, 6, 0);
+        rider.told(0, 1, 4, 0);
+        rider.told(0, 2, 3, 0);
+        Check.due("the first rider's part", rider.parts(), 0);
+        Check.rowIs("the first rider's part", rider, 2, 0, 0, 4, 2, 1, 3);
     }
 
     private static void riders() {
@@ -168,6 +185,10 @@ public final class BuildersTest {
             Check.due("wind of none such", x.wind(b[0], b[1], b[2], b[3]), -1);
         }
         Check.rowIs("refused: the row stays", x, 11, 100, 21, 100);
+        FourAPole six = Check.course("u0@40", "410000" + Check.times(";450000", 5), "a");
+        Check.text(six, "s*10").rule();
+        wind(six, 0, 6, 6, 50, 1, 1, 320, 3, 5);
+        wind(six, 0, 0, 6, 50, 0, 9, 320, 0, 1);
         FourAPole none = Check.course("u0@40", "400000");
         Check.due("no plan", none.wind(0, 0, 0, 0), -1);
     }

@@ -97,6 +97,11 @@ public final class MoneyTest {
         turned.told(0, 0, 0, 50);
         Check.due("the second horse", turned.buy(), 1);
         Check.rowIs("the second horse", turned, 440000, 1, 400000);
+        FourAPole better = Check.course("u0@40", "490000;420000;400000", "a", "d");
+        Check.text(better, "s*10+p*10").rule();
+        better.told(0, 0, 0, 50);
+        Check.due("each better than the one ahead", better.buy(), 2);
+        Check.rowIs("each better than the one ahead", better, 440000, 1, 400000);
         FourAPole one = Check.course("u0@40", "400000", "a");
         Check.due("one horse", one.buy(), 0);
         Check.rowIs("one horse", one, 500000, 0, -1);
@@ -221,6 +226,8 @@ public final class MoneyTest {
         for (int bad : new int[] {0, -1, 6, MIN, MAX}) {
             Check.due("share(" + bad + ")", Check.text(x, "zz").share(bad), -200);
         }
+        FourAPole onePlan = Check.course("u0@40", "400000", "a");
+        Check.due("share with one plan", Check.text(onePlan, "00").share(0), -200);
         Check.due("share of none", Check.text(x, "").share(1), -1);
         Check.due("share of one", Check.text(x, "0").share(1), -2);
         Check.due("share of three", Check.text(x, "010").share(1), -3);

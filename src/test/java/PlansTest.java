@@ -101,6 +101,11 @@ public final class PlansTest {
         Check.text(x, "20-x*(k=1)*9-x*(k=2)*9").rule();
         Check.due("the most saved of equal ones", x.cuts(0, 0), 1);
         Check.rowIs("the most saved of equal ones", x, -9, 9);
+        Check.text(x, "20+x*k").rule();
+        Check.due("dearer ones that save more don't count", x.cuts(0, 0), 0);
+        x.move(1, 99);
+        Check.due("nor far dearer ones", x.cuts(0, 0), 0);
+        Check.rowIs("nor far dearer ones", x, 0, 10);
         FourAPole like = Check.course("u3@40;u3@43;u3@40", HORSES, "aaa");
         Check.text(like, "x").rule();
         Check.due("then the first", like.cuts(0, 0), 0);
@@ -198,6 +203,14 @@ public final class PlansTest {
             Check.due("long quick " + v, x.quick(0, v), slow.quick(0, v));
             sameRow("long quick " + v, x, slow);
         }
+        FourAPole longest = Check.course("d0@99" + Check.times(";d0@99", 7), "300000", "aaaaaaaa");
+        Check.text(longest, "p+x").rule();
+        Check.due("the longest round", longest.curve(0, 9999), 0);
+        Check.rowIs("the longest round", longest, 1200, 0, 0, 0, 0, 0, 0, 0, 0);
+        Check.due("the longest but one", longest.curve(0, 1199), 1);
+        Check.rowIs("the longest but one", longest, 1175, 0, 0, 0, 0, 0, 0, 0, 1);
+        Check.due("the quickest", longest.quick(0, 9999), 416);
+        Check.rowIs("the quickest", longest, 32, 7, 7, 7, 7, 7, 7, 7, 7);
     }
 
     private static void sameRow(String what, FourAPole x, Slow slow) {

@@ -49,6 +49,12 @@ public final class RoundsTest {
         Check.due("none too many", x.look(0, 0, 0), 8);
         x.allow(78);
         Check.due("one too many", x.look(0, 0, 0), 9);
+        Check.text(x, "0").rule();
+        Check.due("a clear one after a refusal", x.look(0, 0, 1), 0);
+        Check.rowIs("a clear one after a refusal", x, 19, 0, 0, -1770082073);
+        // Seed 120 draws 16 first: a horse that refuses to 16 of 100 does not. Seed 3 draws 15 first.
+        Check.due("16 is not below 16", x.look(0, 0, 120), 0);
+        Check.due("15 is below 16, and one too many", x.look(0, 0, 3), 5);
         FourAPole three = fresh();
         Check.text(three, "100").rule();
         three.allow(0);
@@ -71,6 +77,7 @@ public final class RoundsTest {
         Check.due("its tenths", x.round(0, 3), 150);
         x.allow(30);
         Check.due("ride late", x.ride(5, 1, 0, MIN), 3);
+        Check.due("ride late: its row", x.row(3), 1109335178);
         Check.due("its faults", x.round(1, 2), 3);
         int[][] bad = {{-1, 0, 0}, {6, 0, 0}, {0, -1, 0}, {0, 2, 0}, {0, 0, -1}, {0, 0, 2}, {MAX, MIN, MAX}};
         Check.due("a row to stay", x.place(0, 0), 1);
@@ -136,6 +143,17 @@ public final class RoundsTest {
         show("r000*", -6);
         show("r000*1", 1);
         show("r000*12", -7);
+        show("r000*0", 1);
+        show("r:", -2);
+        show("r0:", -3);
+        show("r00:", -4);
+        show("r000*:", -6);
+        show("t:", -2);
+        show("t0:", -3);
+        show("t00::", -5);
+        show("t00:1:", -6);
+        show("t00:1+:", -7);
+        show("t00:1+1:", -8);
         show("t", -2);
         show("t0", -3);
         show("t00", -4);
@@ -214,6 +232,10 @@ public final class RoundsTest {
         Check.due("the show stuck", x.count(3), 0);
         Check.due("undo the show", x.undo(), 2);
         Check.due("both are back", x.count(3), 2);
+        Check.text(x, "x;x;t21:9+77;t31:8+66").show();
+        Check.due("undo what was told anew", x.undo(), 2);
+        Check.due("the rider is back", x.round(0, 0), 0);
+        Check.due("the horse is back", x.round(0, 1), 0);
         Check.due("the first is back", x.round(0, 2) * 1000 + x.round(0, 3), 4010);
         Check.due("the second is back", x.round(1, 0), 1);
         Check.due("undo the ride", x.undo(), 1);
@@ -245,6 +267,8 @@ public final class RoundsTest {
             Check.due("undo", x.undo(), i);
             int want = i >= 7 ? 17 - i : i + 3;
             Check.due("rounds after undo to " + i, x.count(3), want);
+            Check.due("the latest after undo to " + i, x.round(want - 1, 3), want - 1);
+            Check.due("the first after undo to " + i, x.round(0, 3), 0);
         }
         Check.due("the first three are not kept", x.undo(), -1);
         Check.due("three rounds stay", x.count(3), 3);
@@ -328,7 +352,7 @@ public final class RoundsTest {
         Check.rowIs("in an empty table", x, 50);
         Check.due("the twelfth in an empty table", x.beat(12), 9999);
         Check.rowIs("the twelfth in an empty table", x, 50);
-        x.told(0, 0, 4, 0);
+        x.told(0, 0, 1, 0);
         x.told(0, 0, 0, 120);
         x.told(0, 0, 0, 100);
         x.told(0, 0, 0, 120);

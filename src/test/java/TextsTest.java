@@ -83,6 +83,11 @@ public final class TextsTest {
         ring("u1@10;", -7);
         ring("u1@10;;", -7);
         ring("u1@10;w", -8);
+        ring("u:", -2);
+        ring("u/", -2);
+        ring("u1@:", -4);
+        ring("u1@1:", -5);
+        ring("u1@1/", -5);
         ring("d0@99", 1);
         ring("u1@10;l9@10;d5@55", 3);
         ring("u0@10" + Check.times(";w1@11", 7), 8);
@@ -143,6 +148,10 @@ public final class TextsTest {
         horses("312", 0, -4);
         horses("31234", 0, -6);
         horses("3123a5", 0, -5);
+        horses(":", 0, -1);
+        horses("3:", 0, -2);
+        horses("3/", 0, -2);
+        horses("31234:", 0, -6);
         horses("312345", 0, 1);
         horses("3123456", 0, -7);
         horses("312345;", 0, -8);
@@ -219,6 +228,9 @@ public final class TextsTest {
         rule("(h)h", -4);
         rule("(h)1", -4);
         rule("h(", -2);
+        rule(":", -1);
+        rule("/", -1);
+        rule("1:", -2);
         rule("123", 0);
         rule("1234", -4);
         rule("12h", -3);
@@ -318,6 +330,9 @@ public final class TextsTest {
         prizes("123", -3, 120);
         prizes("12,", -4, 120);
         prizes("12,,", -4, 120);
+        prizes(":", -1, 120);
+        prizes("1:", -2, 120);
+        prizes("1/", -2, 120);
         prizes("0", 1, 0);
         prizes("00", 1, 0);
         prizes("99,1", 2, 100);
