@@ -1,19 +1,13 @@
-import java.util.NoSuchElementException;
 import java.util.Random;
 
 /** The same calls, drawn by fixed seeds, on the class and on Slow: all answers and all that can be seen must be alike. */
 public final class RandomRunsTest {
     private static final int RUNS = 400;
     private static final int CALLS = 300;
-    private static final String[] NAMES = {"sign", "end", "ring", "horses", "plan", "rule", "prizes", "fence", "horse", "raise",
-        "move", "allow", "sheet", "jump", "strides", "calm", "fear", "falls", "poles", "cuts", "curve", "quick", "sure", "ride",
-        "look", "told", "show", "undo", "round", "table", "place", "beat", "law", "mean", "last", "buy", "game", "lot", "share",
-        "through", "built", "fair", "parts", "riders", "wind", "keep", "again", "count", "row"};
     private static final int[] WILD = {Integer.MIN_VALUE, -100, -2, -1, 9, 12, 13, 100, 1000, 10001, 65536, Integer.MAX_VALUE};
 
     private static Random random;
-    private static FourAPole x;
-    private static Slow slow;
+    private static Pair both;
 
     private RandomRunsTest() {
     }
@@ -21,8 +15,7 @@ public final class RandomRunsTest {
     public static void main(String[] args) {
         for (int run = 0; run < RUNS; run++) {
             random = new Random(run);
-            x = new FourAPole();
-            slow = new Slow();
+            both = new Pair();
             int mostFences = run % 40 == 0 ? 5 : 4;
             begin(mostFences);
             for (int i = 0; i < CALLS; i++) {
@@ -34,21 +27,21 @@ public final class RandomRunsTest {
 
     private static void begin(int mostFences) {
         if (random.nextInt(8) > 0) {
-            put(ringText(1 + random.nextInt(mostFences)));
-            compare("ring", x.ring(), slow.ring());
+            both.put(ringText(1 + random.nextInt(mostFences)));
+            both.call("ring", "ring");
         }
         if (random.nextInt(8) > 0) {
-            put(horsesText(1 + random.nextInt(6)));
-            compare("horses", x.horses(), slow.horses());
+            both.put(horsesText(1 + random.nextInt(6)));
+            both.call("horses", "horses");
         }
         for (int i = random.nextInt(4); i > 0; i--) {
-            put(letters("abcdefgh", slow.count(0)));
-            compare("plan", x.plan(), slow.plan());
+            both.put(letters("abcdefgh", both.count(0)));
+            both.call("plan", "plan");
         }
     }
 
     private static void step(int run, int mostFences) {
-        String name = NAMES[random.nextInt(NAMES.length)];
+        String name = Pair.NAMES[random.nextInt(Pair.NAMES.length)];
         int[] a = new int[4];
         for (int i = 0; i < 4; i++) {
             a[i] = random.nextInt(25) == 0 ? WILD[random.nextInt(WILD.length)] : random.nextInt(4);
@@ -56,21 +49,11 @@ public final class RandomRunsTest {
         widen(name, a);
         String signs = textFor(name, mostFences);
         if (signs != null) {
-            put(signs);
+            both.put(signs);
         }
         String what = "run " + run + " " + name + "(" + a[0] + ", " + a[1] + ", " + a[2] + ", " + a[3] + ")"
             + (signs == null ? "" : " with " + signs);
-        compare(what, callFast(name, a), callSlow(name, a));
-        for (int i = 0; i < 9; i++) {
-            compare(what + " then count(" + i + ")", x.count(i), slow.count(i));
-        }
-        for (int i = 0; i < slow.count(6) && i < x.count(6); i++) {
-            compare(what + " then row(" + i + ")", x.row(i), slow.row(i));
-        }
-    }
-
-    private static void compare(String what, long got, long want) {
-        Check.due(what, got, want);
+        both.call(what, name, a);
     }
 
     /** Numbers that reach all of a call's inputs, mostly allowed ones. */
@@ -139,7 +122,7 @@ public final class RandomRunsTest {
         String signs = switch (name) {
             case "ring" -> random.nextInt(5) > 0 ? null : ringText(1 + random.nextInt(mostFences));
             case "horses" -> horsesText(1 + random.nextInt(2));
-            case "plan" -> letters("abcdefgh", slow.count(0));
+            case "plan" -> letters("abcdefgh", both.count(0));
             case "rule" -> ruleText();
             case "prizes" -> prizesText();
             case "show" -> showText();
@@ -241,144 +224,5 @@ public final class RandomRunsTest {
             }
         }
         return s.toString();
-    }
-
-    private static void put(String signs) {
-        Check.text(x, signs);
-        slow.end(0);
-        for (int i = 0; i < signs.length(); i += 4) {
-            int v = 0;
-            for (int j = i; j < i + 4; j++) {
-                v = v << 8 | (j < signs.length() ? signs.charAt(j) & 255 : 0);
-            }
-            slow.sign(v);
-        }
-        slow.end(signs.length());
-    }
-
-    private static final long THROWN = Long.MIN_VALUE;
-
-    private static long callFast(String name, int[] a) {
-        try {
-            return fast(name, a);
-        } catch (NoSuchElementException e) {
-            return THROWN;
-        }
-    }
-
-    private static long callSlow(String name, int[] a) {
-        try {
-            return slowly(name, a);
-        } catch (NoSuchElementException e) {
-            return THROWN;
-        }
-    }
-
-    private static long fast(String name, int[] a) {
-        return switch (name) {
-            case "sign" -> x.sign(a[0]);
-            case "end" -> x.end(a[0]) ? 1 : 0;
-            case "ring" -> x.ring();
-            case "horses" -> x.horses();
-            case "plan" -> x.plan();
-            case "rule" -> x.rule();
-            case "prizes" -> x.prizes();
-            case "fence" -> x.fence(a[0], a[1]);
-            case "horse" -> x.horse(a[0], a[1]);
-            case "raise" -> x.raise(a[0], a[1]);
-            case "move" -> x.move(a[0], a[1]);
-            case "allow" -> x.allow(a[0]);
-            case "sheet" -> x.sheet(a[0], a[1], a[2], a[3]);
-            case "jump" -> x.jump(a[0], a[1], a[2]);
-            case "strides" -> x.strides(a[0], a[1]);
-            case "calm" -> x.calm(a[0], a[1]);
-            case "fear" -> x.fear(a[0], a[1]);
-            case "falls" -> x.falls(a[0], a[1]);
-            case "poles" -> x.poles(a[0], a[1], a[2]);
-            case "cuts" -> x.cuts(a[0], a[1]);
-            case "curve" -> x.curve(a[0], a[1]);
-            case "quick" -> x.quick(a[0], a[1]);
-            case "sure" -> x.sure(a[0]);
-            case "ride" -> x.ride(a[0], a[1], a[2], a[3]);
-            case "look" -> x.look(a[0], a[1], a[2]);
-            case "told" -> x.told(a[0], a[1], a[2], a[3]);
-            case "show" -> x.show();
-            case "undo" -> x.undo();
-            case "round" -> x.round(a[0], a[1]);
-            case "table" -> x.table();
-            case "place" -> x.place(a[0], a[1]);
-            case "beat" -> x.beat(a[0]);
-            case "law" -> x.law(a[0], a[1]);
-            case "mean" -> x.mean(a[0], a[1]);
-            case "last" -> x.last(a[0]);
-            case "buy" -> x.buy();
-            case "game" -> x.game();
-            case "lot" -> x.lot();
-            case "share" -> x.share(a[0]);
-            case "through" -> x.through(a[0], a[1]);
-            case "built" -> x.built(a[0], a[1], a[2]);
-            case "fair" -> x.fair(a[0]);
-            case "parts" -> x.parts();
-            case "riders" -> x.riders(a[0], a[1]);
-            case "wind" -> x.wind(a[0], a[1], a[2], a[3]);
-            case "keep" -> x.keep(a[0]) ? 1 : 0;
-            case "again" -> x.again(a[0]) ? 1 : 0;
-            case "count" -> x.count(a[0]);
-            default -> x.row(a[0]);
-        };
-    }
-
-    private static long slowly(String name, int[] a) {
-        return switch (name) {
-            case "sign" -> slow.sign(a[0]);
-            case "end" -> slow.end(a[0]) ? 1 : 0;
-            case "ring" -> slow.ring();
-            case "horses" -> slow.horses();
-            case "plan" -> slow.plan();
-            case "rule" -> slow.rule();
-            case "prizes" -> slow.prizes();
-            case "fence" -> slow.fence(a[0], a[1]);
-            case "horse" -> slow.horse(a[0], a[1]);
-            case "raise" -> slow.raise(a[0], a[1]);
-            case "move" -> slow.move(a[0], a[1]);
-            case "allow" -> slow.allow(a[0]);
-            case "sheet" -> slow.sheet(a[0], a[1], a[2], a[3]);
-            case "jump" -> slow.jump(a[0], a[1], a[2]);
-            case "strides" -> slow.strides(a[0], a[1]);
-            case "calm" -> slow.calm(a[0], a[1]);
-            case "fear" -> slow.fear(a[0], a[1]);
-            case "falls" -> slow.falls(a[0], a[1]);
-            case "poles" -> slow.poles(a[0], a[1], a[2]);
-            case "cuts" -> slow.cuts(a[0], a[1]);
-            case "curve" -> slow.curve(a[0], a[1]);
-            case "quick" -> slow.quick(a[0], a[1]);
-            case "sure" -> slow.sure(a[0]);
-            case "ride" -> slow.ride(a[0], a[1], a[2], a[3]);
-            case "look" -> slow.look(a[0], a[1], a[2]);
-            case "told" -> slow.told(a[0], a[1], a[2], a[3]);
-            case "show" -> slow.show();
-            case "undo" -> slow.undo();
-            case "round" -> slow.round(a[0], a[1]);
-            case "table" -> slow.table();
-            case "place" -> slow.place(a[0], a[1]);
-            case "beat" -> slow.beat(a[0]);
-            case "law" -> slow.law(a[0], a[1]);
-            case "mean" -> slow.mean(a[0], a[1]);
-            case "last" -> slow.last(a[0]);
-            case "buy" -> slow.buy();
-            case "game" -> slow.game();
-            case "lot" -> slow.lot();
-            case "share" -> slow.share(a[0]);
-            case "through" -> slow.through(a[0], a[1]);
-            case "built" -> slow.built(a[0], a[1], a[2]);
-            case "fair" -> slow.fair(a[0]);
-            case "parts" -> slow.parts();
-            case "riders" -> slow.riders(a[0], a[1]);
-            case "wind" -> slow.wind(a[0], a[1], a[2], a[3]);
-            case "keep" -> slow.keep(a[0]) ? 1 : 0;
-            case "again" -> slow.again(a[0]) ? 1 : 0;
-            case "count" -> slow.count(a[0]);
-            default -> slow.row(a[0]);
-        };
     }
 }
