@@ -14,6 +14,8 @@ public final class EdgeMoneyTest {
         playersRefused();
         games();
         gamesOfEqualOnes();
+        gamesByTime();
+        gamesOfSixPlans();
         lots();
         shares();
         sharesOfJustAsMuch();
@@ -178,6 +180,7 @@ public final class EdgeMoneyTest {
             }
             for (int n : new int[] {Edge.MIN, -1, 0, 6, 7, Edge.MAX}) {
                 Edge.changesTextAlone("share(" + n + ")", Edge::some, text, -200, x -> x.share(n));
+                Edge.changesTextAlone("share(" + n + ") with one PLAN", () -> herd(1), text, -200, x -> x.share(n));
                 Edge.changesTextAlone("share(" + n + ") with all there", Edge::full, text, -200, x -> x.share(n));
             }
         }
@@ -250,6 +253,38 @@ public final class EdgeMoneyTest {
         Check.text(x, "99,99,99,99,99,99").prizes();
         Check.text(x, "000").game();
         Check.rowIs("the most of all", x, 99, 1, 99, 1, 99, 1);
+    }
+
+    /** HORSE 1 always has a pole down; HORSE 0 only where it is fast, so it must be slow, and late, to be clear. */
+    private static void gamesByTime() {
+        FourAPole x = Check.course("u0@99;u0@99", "400000;490000", "aa", "hh");
+        Check.text(x, "(s=9)*100+(s=0)*(p=3)*100").rule();
+        Check.text(x, "1").prizes();
+        // 296 TENTHS by PLAN 0: 120 above cost 3 FAULTS, 121 cost 4, as many as a pole, and then TENTHS tell.
+        int[][] want = {{9999, 0, 0, 1}, {296, 0, 0, 1}, {177, 0, 0, 1}, {176, 0, 0, 1}, {175, 1, 1, 0}, {100, 1, 1, 0}, {99, 1, 1, 0}, {0, 1, 1, 0}};
+        for (int[] w : want) {
+            x.allow(w[0]);
+            Check.due("with " + w[0] + " ALLOWED", Check.text(x, "10").game(), w[1]);
+            Check.rowIs("with " + w[0] + " ALLOWED", x, w[2], 1, w[3], 1);
+            Check.due("with " + w[0] + " ALLOWED, to share", Check.text(x, "10").share(2), 0);
+            Check.rowIs("with " + w[0] + " ALLOWED, to share", x, 0, w[2], 1, w[3], 1);
+            Check.due("with " + w[0] + " ALLOWED, as a lot", Check.text(x, "10").lot(), 0);
+            Check.rowIs("with " + w[0] + " ALLOWED, as a lot", x, w[2], 1);
+        }
+    }
+
+    private static void gamesOfSixPlans() {
+        for (int best = 0; best < 6; best++) {
+            FourAPole x = Check.course("u0@40", "400000;490000", "a", "b", "c", "d", "g", "h");
+            // Only by one letter it is clear for sure; by others never, and there is no MONEY then.
+            String letter = best < 4 ? "(p=" + best + ")*(x=0)" : "(p=" + (best - 2) + ")*x";
+            Check.due("rule", Check.text(x, "(" + letter + "=0)*100").rule(), 0);
+            Check.text(x, "7").prizes();
+            x.told(0, 0, 1, 0);
+            Check.due("the best is " + best, Check.text(x, "0").game(), best);
+            Check.rowIs("the best is " + best, x, 7, 1);
+            Check.due("last() says so too", x.last(1), best);
+        }
     }
 
     private static void lots() {

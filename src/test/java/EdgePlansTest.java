@@ -17,6 +17,8 @@ public final class EdgePlansTest {
         quick();
         quickAtEachFear();
         sure();
+        refusalsCount();
+        sumsThatCantBe();
         noFences();
         Check.end("EdgePlansTest");
     }
@@ -293,6 +295,30 @@ public final class EdgePlansTest {
         Check.due("600 are allowed at first", first.sure(0), 0);
         first.move(0, 81);
         Check.due("601 are not", first.sure(0), 1);
+    }
+
+    /** Refusals of 21 at each of two FENCES are feared by any letters. */
+    private static void refusalsCount() {
+        FourAPole x = Check.course("l0@13;l0@13", "900000");
+        Check.text(x, "p+x").rule();
+        Check.due("the least FEAR", x.curve(0, 38), 42);
+        Check.rowIs("the least FEAR", x, 38, 0, 0);
+        Check.due("one TENTH less", x.curve(0, 37), 43);
+        Check.due("just so much FEAR", x.quick(0, 42), 38);
+        Check.rowIs("just so much FEAR", x, 42, 0, 0);
+        Check.due("one less", x.quick(0, 41), -2);
+        x.allow(38);
+        Check.due("sure of it", x.sure(0), 42);
+    }
+
+    /** By a (60 TENTHS) at the first, 10 would be left for the second FENCE, and no letter takes 10 there. */
+    private static void sumsThatCantBe() {
+        FourAPole x = Check.course("u0@40;u0@16", "400000");
+        Check.text(x, "((p=1)*(x=0))=0").rule();
+        Check.due("only b is not feared", x.curve(0, 9999), 0);
+        Check.rowIs("only b is not feared", x, 70, 1, 1);
+        Check.due("only b is not feared: quick", x.quick(0, 0), 70);
+        Check.rowIs("only b is not feared: quick", x, 0, 1, 1);
     }
 
     private static void noFences() {
