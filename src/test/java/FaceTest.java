@@ -1,37 +1,40 @@
+import java.io.IOException;
 import java.lang.reflect.Constructor;
 import java.lang.reflect.Field;
 import java.lang.reflect.Method;
 import java.lang.reflect.Modifier;
+import java.nio.file.Files;
+import java.nio.file.Path;
 import java.util.Set;
 import java.util.TreeSet;
+import java.util.regex.Matcher;
+import java.util.regex.Pattern;
 
-/** The public face is the document's, and nothing else can be seen. */
+/** The public face is the document's, and nothing else can be seen; run from the project's folder. */
 public final class FaceTest {
-    private static final String FACE = "again(int):boolean allow(int):int beat(int):int built(int,int,int):int buy():int "
-        + "calm(int,int):int count(int):int curve(int,int):int cuts(int,int):int end(int):boolean fair(int):int "
-        + "falls(int,int):int fear(int,int):int fence(int,int):int game():int horse(int,int):int horses():int "
-        + "jump(int,int,int):int keep(int):boolean last(int):int law(int,int):int look(int,int,int):int lot():int "
-        + "mean(int,int):int move(int,int):int parts():int place(int,int):int plan():int poles(int,int,int):int prizes():int "
-        + "quick(int,int):int raise(int,int):int ride(int,int,int,int):int riders(int,int):int ring():int round(int,int):int "
-        + "row(int):long rule():int share(int):int sheet(int,int,int,int):int show():int sign(int):int strides(int,int):int "
-        + "sure(int):int table():int through(int,int):int told(int,int,int,int):int undo():int wind(int,int,int,int):int";
+    private static final Path DOCUMENT = Path.of("../shared/DOC.md");
+    private static final Pattern PROMISED = Pattern.compile("    public (\\w+) (\\w+)\\((.*)\\)( throws \\w+)?;");
+    private static final int CALLS = 49;
 
     private FaceTest() {
     }
 
-    public static void main(String[] args) {
-        Set<String> want = new TreeSet<>(Set.of(FACE.split(" ")));
+    public static void main(String[] args) throws IOException {
+        Set<String> want = promised();
         Set<String> got = new TreeSet<>();
         Set<String> names = new TreeSet<>();
         for (Method m : FourAPole.class.getDeclaredMethods()) {
             if (Modifier.isPublic(m.getModifiers())) {
                 got.add(described(m));
                 names.add(m.getName());
+                Check.due(m + " is static", Modifier.isStatic(m.getModifiers()), false);
             } else {
                 Check.due(m + " is private", Modifier.isPrivate(m.getModifiers()), true);
             }
         }
+        Check.due("calls of the document's face", want.size(), CALLS);
         Check.due("the face is " + got, got.equals(want), true);
+        Check.due("NONE", FourAPole.NONE, -1);
         privateNames(FourAPole.class, names);
         for (Class<?> inside : FourAPole.class.getDeclaredClasses()) {
             Check.due(inside + " is static", Modifier.isStatic(inside.getModifiers()), true);
@@ -43,6 +46,7 @@ public final class FaceTest {
             Check.due(f + " is seen", Modifier.isPublic(f.getModifiers()), none);
             Check.due(f + " is private", Modifier.isPrivate(f.getModifiers()), !none);
             Check.due(f + " is final", Modifier.isFinal(f.getModifiers()), true);
+            Check.due(f + " is static", Modifier.isStatic(f.getModifiers()), none || f.getName().equals(f.getName().toUpperCase()));
         }
         Constructor<?>[] makers = FourAPole.class.getDeclaredConstructors();
         Check.due("constructors", makers.length, 1);
@@ -61,11 +65,29 @@ public final class FaceTest {
         }
     }
 
+    /** What the document's page of code says of the class's calls, as described() tells them. */
+    private static Set<String> promised() throws IOException {
+        Set<String> face = new TreeSet<>();
+        for (String line : Files.readAllLines(DOCUMENT)) {
+            Matcher call = PROMISED.matcher(line);
+            if (call.matches()) {
+                String takes = call.group(3).replaceAll("(\\w+) \\w+", "$1").replace(" ", "");
+                String thrown = call.group(4) == null ? "" : call.group(4);
+                face.add(call.group(2) + "(" + takes + "):" + call.group(1) + thrown);
+            }
+        }
+        return face;
+    }
+
     private static String described(Method m) {
         StringBuilder s = new StringBuilder(m.getName()).append('(');
         for (int i = 0; i < m.getParameterCount(); i++) {
             s.append(i > 0 ? "," : "").append(m.getParameterTypes()[i].getName());
         }
-        return s.append("):").append(m.getReturnType().getName()).toString();
+        s.append("):").append(m.getReturnType().getName());
+        for (Class<?> thrown : m.getExceptionTypes()) {
+            s.append(" throws ").append(thrown.getSimpleName());
+        }
+        return s.toString();
     }
 }
